@@ -1,0 +1,118 @@
+/** Promises 30 and 31: priceAfter, evictedAfter. */
+public final class AheadTest {
+    private static final Kit KIT = new Kit("AheadTest");
+
+    public static void main(String[] args) {
+        priceAfter();
+        evictedAfter();
+        numbersTakenAgain();
+        limits();
+        endOfTheClock();
+        KIT.end();
+    }
+
+    private static void priceAfter() {
+        CloudMarket x = KIT.market("host 4 9;type 1 1 100;tenant 99;notice 2;");
+        KIT.due("bid", x.bid(0, 0, 44), 1);
+        KIT.due("now", x.priceAfter(0, 0), 20);
+        KIT.due("the request is not granted yet", x.priceAfter(0, 1), 20);
+        int[] prices = {45, 45, 20, 20};
+        for (int k = 0; k < prices.length; k++) {
+            // Granted at 1, notice at 2 for 4, evicted at 4.
+            KIT.due("after " + (k + 2), x.priceAfter(0, k + 2), prices[k]);
+        }
+        KIT.due("nothing passed", x.clock(), 0);
+        KIT.due("nothing granted", x.waiting(), 1);
+        KIT.due("nothing runs", x.running(), 0);
+        KIT.due("no change to undo but the bid", x.undo(), 0);
+        KIT.due("launch", x.launch(0, 0), 0);
+        KIT.due("now", x.priceAfter(0, 0), 20);
+        KIT.due("with the load", x.priceAfter(0, 1), 45);
+        KIT.due("far", x.priceAfter(0, 200), 45);
+        KIT.due("nothing paid", x.spent(0), 0);
+    }
+
+    private static void evictedAfter() {
+        CloudMarket x = KIT.market("host 4 9;type 1 1 100;tenant 99;notice 2;");
+        KIT.due("bid", x.bid(0, 0, 44), 1);
+        KIT.due("launch", x.launch(0, 0), 0);
+        KIT.due("a regular one", x.evictedAfter(0), -1);
+        KIT.due("pass", x.pass(1), 0);
+        KIT.due("the bid is too low now", x.waiting(), 1);
+        KIT.due("stop", x.stop(0), 0);
+        KIT.due("pass", x.pass(1), 0);
+        KIT.due("granted", x.running(), 1);
+        KIT.due("notice in one hour for two hours later", x.evictedAfter(0), 3);
+        KIT.due("pass", x.pass(1), 0);
+        KIT.due("two more", x.evictedAfter(0), 2);
+        KIT.due("pass", x.pass(1), 0);
+        KIT.due("one more", x.evictedAfter(0), 1);
+        KIT.due("still there", x.running(), 1);
+        KIT.due("pass", x.pass(1), 1);
+        CloudMarket y = KIT.market("host 4 9;type 1 1 100;tenant 99;notice 48;");
+        KIT.due("bid", y.bid(0, 0, 44), 1);
+        KIT.due("bid", y.bid(0, 0, 99), 2);
+        KIT.due("pass", y.pass(1), 0);
+        KIT.due("the high bid stays", y.evictedAfter(0), -1);
+        KIT.due("long notice", y.evictedAfter(1), 49);
+        KIT.due("by hand, but lost with the hour", y.evict(0), 49);
+        KIT.due("never", y.evictedAfter(0), -1);
+        CloudMarket z = KIT.market("host 4 9;type 1 1 100;tenant 99;notice 0;");
+        KIT.due("bid", z.bid(0, 0, 99), 1);
+        KIT.due("pass", z.pass(1), 0);
+        KIT.due("never", z.evictedAfter(0), -1);
+        KIT.due("by hand", z.evict(0), 1);
+        KIT.due("with the next hour", z.evictedAfter(0), 1);
+        CloudMarket w = KIT.market("host 4 9;type 1 1 100;tenant 99;notice 1;");
+        KIT.due("bid", w.bid(0, 0, 99), 1);
+        KIT.due("pass", w.pass(1), 0);
+        KIT.due("by hand", w.evict(0), 2);
+        KIT.due("before it is lost", w.evictedAfter(0), 1);
+    }
+
+    private static void numbersTakenAgain() {
+        // When number 0 is evicted, the waiting request takes its number in the same hour.
+        CloudMarket x = KIT.market("host 1 9;type 1 1 100;tenant 99;tenant 99;notice 0;");
+        KIT.due("bid", x.bid(0, 0, 99), 1);
+        KIT.due("bid", x.bid(1, 0, 98), 2);
+        KIT.due("pass", x.pass(1), 0);
+        KIT.due("tenant", x.tenantOf(0), 0);
+        KIT.due("full load costs 100 in the next hour", x.evictedAfter(0), 2);
+        KIT.due("pass", x.pass(2), 1);
+        KIT.due("taken again", x.tenantOf(0), 1);
+        KIT.due("running", x.running(), 1);
+        KIT.due("the same again", x.evictedAfter(0), 2);
+    }
+
+    private static void limits() {
+        CloudMarket x = KIT.market("host 4 9;type 1 1 100;tenant 99;");
+        KIT.due("launch", x.launch(0, 0), 0);
+        KIT.due("most hours", x.priceAfter(0, 200), 45);
+        KIT.argument("too many", () -> x.priceAfter(0, 201));
+        KIT.argument("negative", () -> x.priceAfter(0, -1));
+        KIT.argument("most", () -> x.priceAfter(0, Integer.MAX_VALUE));
+        KIT.index("type", () -> x.priceAfter(1, 0));
+        KIT.index("type first", () -> x.priceAfter(1, 201));
+        KIT.index("type first", () -> x.priceAfter(-1, -1));
+        KIT.index("instance", () -> x.evictedAfter(1));
+        KIT.index("instance", () -> x.evictedAfter(-1));
+        KIT.index("instance", () -> x.evictedAfter(12));
+        KIT.index("instance", () -> x.evictedAfter(32));
+    }
+
+    private static void endOfTheClock() {
+        // Only pass is bound by the end of the clock; predictions go on behind it.
+        CloudMarket x = KIT.market("host 4 9;type 1 1 100;tenant 9999;notice 2;");
+        for (int k = 0; k < 19; k++) {
+            KIT.due("pass", x.pass(500), 0);
+        }
+        KIT.due("pass", x.pass(498), 0);
+        KIT.due("bid", x.bid(0, 0, 44), 1);
+        KIT.due("pass", x.pass(1), 0);
+        KIT.due("clock", x.clock(), 9999);
+        KIT.due("running", x.running(), 1);
+        KIT.due("evicted", x.evictedAfter(0), 3);
+        KIT.due("price", x.priceAfter(0, 1), 45);
+        KIT.due("price", x.priceAfter(0, 3), 20);
+    }
+}
