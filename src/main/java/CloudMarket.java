@@ -210,7 +210,7 @@ public final class CloudMarket {
     // ---- packing
 
     public int fewestHosts() {
-        return packing.fewest(cloud, now);
+        return packing.fewestFor(cloud, now);
     }
 
     public int cheapestEviction(int host, int type) throws IndexOutOfBoundsException {
@@ -972,6 +972,23 @@ public final class CloudMarket {
             return found;
         }
 
+        int hostsInUse() {
+            int many = 0;
+            for (int host = 0; host < MAX_HOSTS; host++) {
+                many += loads.get(host, CPU) > 0 ? 1 : 0;
+            }
+            return many;
+        }
+
+        /** How many instances of a type run, regular or not. */
+        int manyOf(int type) {
+            int many = 0;
+            for (int k = 0; k < MAX_INSTANCES; k++) {
+                many += runs(k) && instances.get(k, TYPE) == type ? 1 : 0;
+            }
+            return many;
+        }
+
         int regulars(int tenant, int type) {
             int many = 0;
             for (int k = 0; k < MAX_INSTANCES; k++) {
@@ -1314,38 +1331,41 @@ public final class CloudMarket {
         // For each row of numbers, the fewest of the hosts looked at so far that hold it.
         private final int[] fewest = new int[MAX_ROWS];
         private final int[] before = new int[MAX_ROWS];
+        // What the instances of each row take.
+        private final Table needs = new Table(MAX_ROWS, 2);
         private final int[] strides = new int[MAX_TYPES];
-        private final Odometer taken = new Odometer();
-        private final Odometer others = new Odometer();
+        // What the hosts before hold, and what is put on the next one.
+        private final Odometer held = new Odometer();
+        private final Odometer added = new Odometer();
 
-        int fewest(Cloud cloud, Situation now) {
+        int fewestFor(Cloud cloud, Situation now) {
             int all = countTypes(now);
+            if (all <= 0 || all >= fewest.length) {
+                return 0;
+            }
+            addNeeds(cloud);
             Arrays.fill(fewest, NEVER);
             fewest[0] = 0;
+            fewest[all] = now.hostsInUse();
             for (int host = 0; host < cloud.hosts.size; host++) {
                 System.arraycopy(fewest, 0, before, 0, Math.min(fewest.length, before.length));
-                taken.restart();
-                for (int n = 0; n < MAX_ROWS && taken.step(strides); n++) {
-                    if (fitsAlone(cloud, host)) {
-                        addHost();
-                    }
+                held.restart();
+                boolean more = true;
+                for (int n = 0; n < MAX_ROWS && more; n++) {
+                    addHost(cloud, host, all);
+                    more = held.step(strides);
                 }
             }
-            return all >= 0 && all < fewest.length ? fewest[all] : NONE;
+            return fewest[all];
         }
 
         /** Sets the limits of the rows to the numbers of running instances by type; returns the last row's code. */
         private int countTypes(Situation now) {
             int all = 0;
             int stride = 1;
-            for (int type = 0; type < strides.length && type < taken.limits.length; type++) {
-                int many = 0;
-                for (int k = 0; k < MAX_INSTANCES; k++) {
-                    if (now.runs(k) && now.instances.get(k, TYPE) == type) {
-                        many++;
-                    }
-                }
-                taken.limits[type] = many;
+            for (int type = 0; type < strides.length && type < held.limits.length; type++) {
+                int many = now.manyOf(type);
+                held.limits[type] = many;
                 strides[type] = stride;
                 all += many * stride;
                 stride *= many + 1;
@@ -1353,30 +1373,44 @@ public final class CloudMarket {
             return all;
         }
 
-        private boolean fitsAlone(Cloud cloud, int host) {
-            int cpu = 0;
-            int memory = 0;
-            for (int type = 0; type < taken.digits.length; type++) {
-                cpu += taken.digits[type] * cloud.types.get(type, CPU);
-                memory += taken.digits[type] * cloud.types.get(type, MEMORY);
-            }
-            return cpu <= cloud.hosts.get(host, CPU) && memory <= cloud.hosts.get(host, MEMORY);
-        }
-
-        /** Adds a host with the taken instances to all that the hosts before it can hold of the others. */
-        private void addHost() {
-            for (int k = 0; k < others.limits.length && k < taken.limits.length && k < taken.digits.length; k++) {
-                others.limits[k] = taken.limits[k] - taken.digits[k];
-            }
-            others.restart();
+        private void addNeeds(Cloud cloud) {
+            held.restart();
             boolean more = true;
             for (int n = 0; n < MAX_ROWS && more; n++) {
-                int rest = others.code;
-                int both = rest + taken.code;
-                if (rest >= 0 && rest < before.length && both >= 0 && both < fewest.length) {
-                    fewest[both] = Math.min(fewest[both], before[rest] + 1);
+                int cpu = 0;
+                int memory = 0;
+                for (int type = 0; type < held.digits.length; type++) {
+                    cpu += held.digits[type] * cloud.types.get(type, CPU);
+                    memory += held.digits[type] * cloud.types.get(type, MEMORY);
                 }
-                more = others.step(strides);
+                needs.set(held.code, CPU, cpu);
+                needs.set(held.code, MEMORY, memory);
+                more = held.step(strides);
+            }
+        }
+
+        /** Puts on a host, beside what the hosts before it hold, all that fits it of the rest. */
+        private void addHost(Cloud cloud, int host, int all) {
+            int code = held.code;
+            if (code < 0 || code >= before.length || all < 0 || all >= fewest.length) {
+                return;
+            }
+            int many = before[code] + 1;
+            if (many >= fewest[all]) {
+                return;
+            }
+            for (int k = 0; k < added.limits.length && k < held.limits.length && k < held.digits.length; k++) {
+                added.limits[k] = held.limits[k] - held.digits[k];
+            }
+            int cpu = cloud.hosts.get(host, CPU);
+            int memory = cloud.hosts.get(host, MEMORY);
+            added.restart();
+            for (int n = 0; n < MAX_ROWS && added.step(strides); n++) {
+                int both = code + added.code;
+                boolean fit = needs.get(added.code, CPU) <= cpu && needs.get(added.code, MEMORY) <= memory;
+                if (fit && both >= 0 && both < fewest.length) {
+                    fewest[both] = Math.min(fewest[both], many);
+                }
             }
         }
     }

@@ -76,7 +76,8 @@ public final class PackingTest {
     }
 
     private static void cheapestEviction() {
-        CloudMarket x = KIT.market("host 8 8;host 2 9;type 2 2 1;type 4 1 1;type 1 5 1;type 9 1 1;type 8 8 1;tenant 99;");
+        CloudMarket x = KIT.market("host 8 8;host 2 9;type 2 2 1;type 4 1 1;type 1 5 1;type 9 1 1;type 8 8 1;"
+            + "tenant 99;");
         KIT.due("fits", x.cheapestEviction(0, 4), 0);
         KIT.due("larger than the host", x.cheapestEviction(0, 3), -1);
         KIT.due("larger than the host", x.cheapestEviction(1, 1), -1);
