@@ -42,10 +42,7 @@ public final class CloudMarket {
     private static final int NOTICE_HOURS = 1;
     private static final int SLOPE = 2;
 
-    private final byte[] buffer = new byte[MAX_TEXT];
-    private int bufferLength = 0;
-    private int errorAt = NONE;
-    private final Reader reader = new Reader(buffer);
+    private final Reader reader = new Reader();
     private final Cloud cloud = new Cloud();
     private final Situation now = new Situation();
     private final Situation ahead = new Situation();
@@ -61,24 +58,22 @@ public final class CloudMarket {
     // ---- cloud
 
     public int append(int a, int b, int c, int d, int e) {
-        if (bufferLength + 20 > MAX_TEXT) {
+        if (reader.filled + 20 > MAX_TEXT) {
             return NONE;
         }
-        putWord(a);
-        putWord(b);
-        putWord(c);
-        putWord(d);
-        putWord(e);
-        return bufferLength;
+        reader.putWord(a);
+        reader.putWord(b);
+        reader.putWord(c);
+        reader.putWord(d);
+        reader.putWord(e);
+        return reader.filled;
     }
 
     public int parse(int length) throws IllegalArgumentException {
-        if (length < 0 || length > bufferLength) {
+        if (length < 0 || length > reader.filled) {
             throw new IllegalArgumentException("length out of range");
         }
         int code = reader.read(length);
-        bufferLength = 0;
-        errorAt = reader.errorAt;
         if (code == 0) {
             cloud.copyFrom(reader.draft);
             now.reset(cloud);
@@ -88,7 +83,7 @@ public final class CloudMarket {
     }
 
     public int errorPosition() {
-        return errorAt;
+        return reader.errorAt;
     }
 
     public int hostCount() {
@@ -388,15 +383,6 @@ public final class CloudMarket {
         return now.clock;
     }
 
-    private void putWord(int word) {
-        for (int shift = 24; shift >= 0; shift -= 8) {
-            if (bufferLength >= 0 && bufferLength < buffer.length) {
-                buffer[bufferLength] = (byte) (word >> shift);
-                bufferLength++;
-            }
-        }
-    }
-
     private void needRow(Table table, int row) {
         if (!table.has(row)) {
             throw new IndexOutOfBoundsException("no such number");
@@ -645,7 +631,7 @@ public final class CloudMarket {
         }
     }
 
-    /** Reads a cloud text into a draft, up to the first error. */
+    /** Holds the input buffer and reads a cloud text from it into a draft, up to the first error. */
     private static final class Reader {
         private static final int MALFORMED = 1;
         private static final int SECOND = 2;
@@ -662,7 +648,8 @@ public final class CloudMarket {
         private static final int MAX_DIGITS = 4;
         private static final int MAX_BRACKETS = 5;
 
-        private final byte[] text;
+        private final byte[] text = new byte[MAX_TEXT];
+        private int filled = 0;
         private final Cloud draft = new Cloud();
         private int errorAt = NONE;
         private int code = 0;
@@ -673,16 +660,22 @@ public final class CloudMarket {
         // The words floor, notice, slope and move that have occurred, a bit each.
         private int seen = 0;
 
-        Reader(byte[] text) {
-            this.text = text;
+        void putWord(int word) {
+            for (int shift = 24; shift >= 0; shift -= 8) {
+                if (filled >= 0 && filled < text.length) {
+                    text[filled] = (byte) (word >> shift);
+                    filled++;
+                }
+            }
         }
 
-        /** Returns the code of the error, 0 if there is none. */
+        /** Empties the buffer; returns the code of the error, 0 if there is none. */
         int read(int textLength) {
             draft.reset();
             errorAt = NONE;
             code = 0;
             length = Math.max(0, Math.min(textLength, text.length));
+            filled = 0;
             next = 0;
             seen = 0;
             advance();
@@ -1417,6 +1410,8 @@ public final class CloudMarket {
 
     /** The cheapest set of spot instances to evict from a host. */
     private static final class Eviction {
+        private static final int MORE_THAN_ALL = MAX_INSTANCES * MAX_PRICE + 1;
+
         private final int[] spots = new int[MAX_INSTANCES];
         private int many = 0;
         private int best = NONE;
@@ -1425,7 +1420,7 @@ public final class CloudMarket {
         int cheapest(Cloud cloud, Situation now, int host, int type) {
             many = 0;
             best = NONE;
-            bestBids = Integer.MAX_VALUE;
+            bestBids = MORE_THAN_ALL;
             for (int k = 0; k < MAX_INSTANCES; k++) {
                 boolean here = now.runs(k) && now.instances.get(k, HOST) == host;
                 if (here && now.instances.get(k, BID) != NONE && many >= 0 && many < spots.length) {
