@@ -6,6 +6,7 @@ public final class AheadTest {
         priceAfter();
         evictedAfter();
         numbersTakenAgain();
+        twoHundredHours();
         limits();
         endOfTheClock();
         KIT.end();
@@ -82,6 +83,31 @@ public final class AheadTest {
         KIT.due("taken again", x.tenantOf(0), 1);
         KIT.due("running", x.running(), 1);
         KIT.due("the same again", x.evictedAfter(0), 2);
+    }
+
+    private static void twoHundredHours() {
+        // Four requests after one another take host 1 for 40 hours each, then one for so much
+        // that the price rises above the bid of instance 0, which has its notice for 39 hours later.
+        CloudMarket x = KIT.market("host 10 1;host 10 10;type 1 1 1000;type 2 10 1000;type 8 10 1000;tenant 9999;"
+            + "floor 10;notice 39;");
+        KIT.due("bid", x.bid(0, 0, 300), 1);
+        KIT.due("pass", x.pass(1), 0);
+        for (int k = 1; k <= 4; k++) {
+            KIT.due("bid", x.bid(0, 1, 200), k);
+        }
+        KIT.due("bid", x.bid(0, 2, 160), 5);
+        KIT.due("201 hours are too far", x.evictedAfter(0), -1);
+        KIT.due("pass", x.pass(1), 0);
+        KIT.due("the first of the four", x.evictedAfter(1), 40);
+        KIT.due("200 hours", x.evictedAfter(0), 200);
+        KIT.due("price of the four", x.priceAfter(0, 160), 150);
+        KIT.due("price of the last", x.priceAfter(0, 161), 550);
+        KIT.due("price of the last", x.priceAfter(0, 199), 550);
+        KIT.due("price of none", x.priceAfter(0, 200), 100);
+        KIT.due("it comes so", x.pass(199), 4);
+        KIT.due("running", x.running(), 3);
+        KIT.due("it comes so", x.pass(1), 2);
+        KIT.due("running", x.running(), 0);
     }
 
     private static void limits() {

@@ -74,6 +74,9 @@ public final class HostsTest {
         KIT.due("stop", x.stop(0), 0);
         KIT.dueDouble("at once", x.utilisation(), 5.0 / 7.0);
         KIT.dueDouble("no hosts", KIT.market("type 1 1 1;tenant 1;").utilisation(), 0.0);
+        CloudMarket y = KIT.market("host 1 1;type 1 1 1;tenant 9;");
+        KIT.due("launch", y.launch(0, 0), 0);
+        KIT.dueDouble("one of one", y.utilisation(), 1.0);
     }
 
     private static void spotPrice() {
@@ -92,10 +95,20 @@ public final class HostsTest {
         KIT.due("launch", y.launch(0, 0), 0);
         KIT.due("pass", y.pass(1), 0);
         KIT.due("rounded twice", y.spotPrice(0), 99);
-        CloudMarket z = KIT.market("type 1 1 50;");
-        KIT.due("no hosts", z.spotPrice(0), 10);
+        CloudMarket z = KIT.market("type 1 1 9999;");
+        KIT.due("no hosts", z.spotPrice(0), 1999);
         KIT.due("pass", z.pass(5), 0);
-        KIT.due("no hosts", z.spotPrice(0), 10);
+        KIT.due("no hosts", z.spotPrice(0), 1999);
+        CloudMarket w = KIT.market("host 64 64;host 36 64;type 9 1 9999;tenant 99;floor 1;slope 101;");
+        for (int k = 0; k < 11; k++) {
+            KIT.due("launch", w.launch(0, 0), k);
+        }
+        KIT.due("pass", w.pass(1), 0);
+        // Use is 99, 101 * 99 / 100 is 99, so that the whole price is paid; with 98 of 100 it would be less.
+        KIT.due("99 and 1 are 100", w.spotPrice(0), 9999);
+        KIT.due("stop", w.stop(0) >= 0, true);
+        KIT.due("pass", w.pass(1), 0);
+        KIT.due("90 and 1 are 91", w.spotPrice(0), 9099);
     }
 
     private static void spotPriceIsCapped() {

@@ -51,9 +51,11 @@ public final class ModelTest {
         }
         int types = pick(1, chance(20) ? 6 : 4);
         int most = Math.max(1, size / pick(2, 5));
+        // Where prices are low, so are bids, and sums of bids are often equal.
+        boolean cheap = chance(30);
         for (int k = 0; k < types; k++) {
             s.append("type ").append(pick(1, most)).append(' ').append(pick(1, most)).append(' ')
-                .append(chance(50) ? pick(1, 9999) : pick(1, 120)).append(";\n");
+                .append(cheap ? pick(1, 9) : chance(50) ? pick(1, 9999) : pick(1, 120)).append(";\n");
         }
         int tenants = pick(1, chance(20) ? 6 : 3);
         for (int k = 0; k < tenants; k++) {
@@ -200,7 +202,7 @@ public final class ModelTest {
             a[1] = chance(80) ? pick(0, 12) : pick(0, 200);
         } else if (name.equals("bid") && chance(95)) {
             boolean near = a[1] >= 0 && a[1] < y.typeCount() && chance(70);
-            a[2] = near ? Math.min(9999, pick(1, 2 * y.spotPrice(a[1]) + 1)) : pick(1, 150);
+            a[2] = near ? Math.min(9999, pick(1, 2 * y.spotPrice(a[1]) + 1)) : chance(50) ? pick(1, 150) : pick(1, 6);
         } else if (name.equals("drainTo") && chance(60) && (y.running() >> a[1] & 1) != 0 && a[1] >= 0 && a[1] < 12) {
             a[0] = y.hostOf(a[1]);
         } else if (name.equals("parse") && chance(95)) {

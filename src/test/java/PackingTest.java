@@ -8,12 +8,14 @@ public final class PackingTest {
         fewestHostsOfManyTypes();
         cheapestEviction();
         cheapestEvictionTies();
+        cheapestEvictionLowestSet();
         cheapestEvictionOfTwelve();
         migrationCost();
         sums();
         overflow();
         drainTo();
         drainToFirstOfSeveral();
+        drainToByMemory();
         drainToLimits();
         KIT.end();
     }
@@ -150,6 +152,28 @@ public final class PackingTest {
         KIT.due("bid", w.bid(0, 0, 10), 3);
         KIT.due("pass", w.pass(1), 0);
         KIT.due("20 + 10 of 30, 40, 20, 10", w.cheapestEviction(0, 1), 0b1100);
+    }
+
+    private static void cheapestEvictionLowestSet() {
+        // Bids 30, 20, 20, 10 with cpu 3, 2, 2, 1: for 4 of cpu there are 0 and 3, or 1 and 2, for 40 each.
+        CloudMarket x = KIT.market("host 8 64;type 3 1 1;type 2 1 1;type 1 1 1;type 4 1 1;tenant 99;");
+        KIT.due("bid", x.bid(0, 0, 30), 1);
+        KIT.due("bid", x.bid(0, 1, 20), 2);
+        KIT.due("bid", x.bid(0, 1, 20), 3);
+        KIT.due("bid", x.bid(0, 2, 10), 4);
+        KIT.due("pass", x.pass(1), 0);
+        KIT.due("full", x.free(0, false), 0);
+        KIT.due("the lowest bit set", x.cheapestEviction(0, 3), 0b0110);
+        // Memory alone: 8 of it with memory 1, 7, 4 and 4 for bids 30, 20, 20 and 10.
+        CloudMarket y = KIT.market("host 64 16;type 1 1 1;type 1 7 1;type 1 4 1;type 9 8 1;type 9 9 1;tenant 99;");
+        KIT.due("bid", y.bid(0, 0, 30), 1);
+        KIT.due("bid", y.bid(0, 1, 20), 2);
+        KIT.due("bid", y.bid(0, 2, 20), 3);
+        KIT.due("bid", y.bid(0, 2, 10), 4);
+        KIT.due("pass", y.pass(1), 0);
+        KIT.due("full", y.free(0, true), 0);
+        KIT.due("4 and 4, or 7 and 4", y.cheapestEviction(0, 3), 0b1010);
+        KIT.due("7 and 4", y.cheapestEviction(0, 4), 0b1010);
     }
 
     private static void cheapestEvictionOfTwelve() {
@@ -306,6 +330,31 @@ public final class PackingTest {
             KIT.due("on the first", z.hostOf(k), 0);
             KIT.due("one each", z.drainTo(0, k), k + 1);
         }
+    }
+
+    private static void drainToByMemory() {
+        // Each of the hosts 1 and 2 has cpu for all, but memory for one of 5 or two of 3.
+        CloudMarket x = KIT.market("host 9 11;host 64 6;host 64 6;type 1 5 1;type 1 3 1;tenant 99;");
+        KIT.due("launch", x.launch(0, 1), 0);
+        KIT.due("launch", x.launch(0, 0), 1);
+        KIT.due("launch", x.launch(0, 1), 2);
+        KIT.due("all on one", x.instancesOn(0), 7);
+        KIT.due("first", x.drainTo(0, 0), 1);
+        KIT.due("second", x.drainTo(0, 1), 2);
+        KIT.due("third", x.drainTo(0, 2), 1);
+        KIT.due("drain", x.drain(0), 3);
+        KIT.due("on", x.instancesOn(1), 5);
+        KIT.due("on", x.instancesOn(2), 2);
+        KIT.due("fewest", x.fewestHosts(), 1);
+        // By memory three hosts of 6 are needed for 5, 3, 3 and 3, though cpu would do with one.
+        CloudMarket y = KIT.market("host 64 6;host 64 6;host 64 6;host 64 6;type 1 5 1;type 1 3 1;tenant 99;");
+        int[] types = {0, 1, 1, 1};
+        for (int k = 0; k < types.length; k++) {
+            KIT.due("launch", y.launch(0, types[k]), k);
+        }
+        KIT.due("fewest", y.fewestHosts(), 3);
+        KIT.due("stop", y.stop(3) >= 0, true);
+        KIT.due("fewest", y.fewestHosts(), 2);
     }
 
     private static void drainToLimits() {

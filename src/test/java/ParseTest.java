@@ -7,6 +7,7 @@ public final class ParseTest {
         append();
         lengths();
         tokens();
+        words();
         grammar();
         sums();
         twice();
@@ -111,6 +112,31 @@ public final class ParseTest {
         KIT.error("move 1.2;", 1, 6);
         KIT.error("move 1,2;", 1, 6);
         KIT.error("move pricess;", 1, 5);
+    }
+
+    /** No word counts with one letter changed, one letter more or one letter less. */
+    private static void words() {
+        String[] statements = {"host 1 1;", "type 1 1 1;", "tenant 1;", "reserve 0 0 1 0 1 0;", "floor 1;", "notice 1;",
+            "slope 1;", "move 1;"};
+        for (String right : statements) {
+            String head = right.startsWith("reserve") ? "tenant 1;type 1 1 1;" : "";
+            KIT.due("right: " + right, KIT.market(head + right).clock(), 0);
+            spoil(head, right.substring(0, right.indexOf(' ')), right.substring(right.indexOf(' ')));
+        }
+        for (String name : new String[] {"cpu", "memory", "price", "age"}) {
+            KIT.due("right: " + name, KIT.market("move " + name + ";").clock(), 0);
+            spoil("move ", name, ";");
+        }
+    }
+
+    private static void spoil(String head, String word, String tail) {
+        for (int k = 0; k < word.length(); k++) {
+            char other = word.charAt(k) == 'z' ? 'a' : (char) (word.charAt(k) + 1);
+            KIT.error(head + word.substring(0, k) + other + word.substring(k + 1) + tail, 1, head.length());
+            KIT.error(head + word.substring(0, k) + word.substring(k + 1) + tail, 1, head.length());
+        }
+        KIT.error(head + word + "z" + tail, 1, head.length());
+        KIT.error(head + "a" + word + tail, 1, head.length());
     }
 
     private static void grammar() {
