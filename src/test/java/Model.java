@@ -234,11 +234,11 @@ final class Model {
 
     // ---- cloud
 
-    int append(int... words) {
+    int append(int a, int b, int c, int d, int e) {
         if (buffer.length() + 20 > 800) {
             return -1;
         }
-        for (int word : words) {
+        for (int word : new int[] {a, b, c, d, e}) {
             for (int k = 3; k >= 0; k--) {
                 buffer.append((char) (word >>> 8 * k & 255));
             }

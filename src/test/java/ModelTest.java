@@ -1,3 +1,7 @@
+import java.lang.reflect.InvocationTargetException;
+import java.lang.reflect.Method;
+import java.util.HashMap;
+import java.util.Map;
 import java.util.Random;
 
 /** All promises: random runs of calls, each answer compared with that of the slow model. */
@@ -12,6 +16,8 @@ public final class ModelTest {
         "restoreSnapshot"};
     private static final String[] OFTEN = {"pass", "pass", "launch", "launch", "launch", "bid", "bid", "bid", "migrate",
         "fewestHosts", "cheapestEviction", "drainTo", "drain", "evictedAfter", "evict", "stop"};
+
+    private static final Map<String, Method> METHODS = new HashMap<>();
 
     private static Random random = new Random(0);
     private static int wrong = 0;
@@ -135,7 +141,7 @@ public final class ModelTest {
                 w[k / 4] = w[k / 4] << 8 | padded.charAt(at + k);
             }
             x.append(w[0], w[1], w[2], w[3], w[4]);
-            y.append(w);
+            y.append(w[0], w[1], w[2], w[3], w[4]);
         }
     }
 
@@ -153,8 +159,8 @@ public final class ModelTest {
             int[] a = {argument(), argument(), argument(), argument(), argument()};
             shape(y, name, a);
             String call = name + "(" + a[0] + ", " + a[1] + ", " + a[2] + ") as call " + k;
-            String got = answer(() -> of(x, name, a));
-            String want = answer(() -> of(y, name, a));
+            String got = answer(x, name, a);
+            String want = answer(y, name, a);
             compare(seed, call, got, want);
         }
     }
@@ -227,17 +233,31 @@ public final class ModelTest {
         return many == 0 ? 0 : pick(0, many - 1);
     }
 
-    interface Call {
-        Object answer();
+    /** The answer of a call by its name, or the name of what it throws. */
+    private static String answer(Object x, String name, int[] a) {
+        Method method = METHODS.computeIfAbsent(x.getClass().getName() + "." + name, key -> find(x, name));
+        Object[] given = new Object[method.getParameterCount()];
+        for (int k = 0; k < given.length; k++) {
+            boolean flag = method.getParameterTypes()[k] == boolean.class;
+            given[k] = flag ? (Object) (a[k] % 2 == 0) : (Object) a[k];
+        }
+        try {
+            return String.valueOf(method.invoke(x, given));
+        } catch (InvocationTargetException e) {
+            thrown++;
+            return e.getCause().getClass().getSimpleName();
+        } catch (IllegalAccessException e) {
+            throw new IllegalStateException(e);
+        }
     }
 
-    private static String answer(Call call) {
-        try {
-            return String.valueOf(call.answer());
-        } catch (IllegalArgumentException | IllegalStateException | IndexOutOfBoundsException e) {
-            thrown++;
-            return e.getClass().getSimpleName();
+    private static Method find(Object x, String name) {
+        for (Method m : x.getClass().getDeclaredMethods()) {
+            if (m.getName().equals(name)) {
+                return m;
+            }
         }
+        throw new IllegalStateException("no method " + name);
     }
 
     private static void compare(int seed, String call, Object got, Object want) {
@@ -246,97 +266,5 @@ public final class ModelTest {
             wrong++;
             System.out.println("seed " + seed + ": " + call + " answered " + got + ", the model says " + want);
         }
-    }
-
-    private static Object of(CloudMarket x, String name, int[] a) {
-        return switch (name) {
-            case "append" -> x.append(a[0], a[1], a[2], a[3], a[4]);
-            case "parse" -> x.parse(a[0]);
-            case "errorPosition" -> x.errorPosition();
-            case "hostCount" -> x.hostCount();
-            case "clock" -> x.clock();
-            case "free" -> x.free(a[0], a[1] % 2 == 0);
-            case "instancesOn" -> x.instancesOn(a[0]);
-            case "utilisation" -> x.utilisation();
-            case "spotPrice" -> x.spotPrice(a[0]);
-            case "bestHost" -> x.bestHost(a[0]);
-            case "room" -> x.room(a[0]);
-            case "running" -> x.running();
-            case "typeOf" -> x.typeOf(a[0]);
-            case "tenantOf" -> x.tenantOf(a[0]);
-            case "hostOf" -> x.hostOf(a[0]);
-            case "bidOf" -> x.bidOf(a[0]);
-            case "noticeOf" -> x.noticeOf(a[0]);
-            case "waiting" -> x.waiting();
-            case "waitingBid" -> x.waitingBid(a[0]);
-            case "spent" -> x.spent(a[0]);
-            case "hourlyBill" -> x.hourlyBill(a[0]);
-            case "covered" -> x.covered(a[0], a[1]);
-            case "isOverBudget" -> x.isOverBudget(a[0]);
-            case "pays" -> x.pays(a[0]);
-            case "fewestHosts" -> x.fewestHosts();
-            case "cheapestEviction" -> x.cheapestEviction(a[0], a[1]);
-            case "migrationCost" -> x.migrationCost(a[0]);
-            case "drainTo" -> x.drainTo(a[0], a[1]);
-            case "priceAfter" -> x.priceAfter(a[0], a[1]);
-            case "evictedAfter" -> x.evictedAfter(a[0]);
-            case "pass" -> x.pass(a[0]);
-            case "launch" -> x.launch(a[0], a[1]);
-            case "bid" -> x.bid(a[0], a[1], a[2]);
-            case "withdraw" -> x.withdraw(a[0]);
-            case "stop" -> x.stop(a[0]);
-            case "evict" -> x.evict(a[0]);
-            case "migrate" -> x.migrate(a[0], a[1]);
-            case "drain" -> x.drain(a[0]);
-            case "undo" -> x.undo();
-            case "saveSnapshot" -> x.saveSnapshot(a[0]);
-            default -> x.restoreSnapshot(a[0]);
-        };
-    }
-
-    private static Object of(Model x, String name, int[] a) {
-        return switch (name) {
-            case "append" -> x.append(a[0], a[1], a[2], a[3], a[4]);
-            case "parse" -> x.parse(a[0]);
-            case "errorPosition" -> x.errorPosition();
-            case "hostCount" -> x.hostCount();
-            case "clock" -> x.clock();
-            case "free" -> x.free(a[0], a[1] % 2 == 0);
-            case "instancesOn" -> x.instancesOn(a[0]);
-            case "utilisation" -> x.utilisation();
-            case "spotPrice" -> x.spotPrice(a[0]);
-            case "bestHost" -> x.bestHost(a[0]);
-            case "room" -> x.room(a[0]);
-            case "running" -> x.running();
-            case "typeOf" -> x.typeOf(a[0]);
-            case "tenantOf" -> x.tenantOf(a[0]);
-            case "hostOf" -> x.hostOf(a[0]);
-            case "bidOf" -> x.bidOf(a[0]);
-            case "noticeOf" -> x.noticeOf(a[0]);
-            case "waiting" -> x.waiting();
-            case "waitingBid" -> x.waitingBid(a[0]);
-            case "spent" -> x.spent(a[0]);
-            case "hourlyBill" -> x.hourlyBill(a[0]);
-            case "covered" -> x.covered(a[0], a[1]);
-            case "isOverBudget" -> x.isOverBudget(a[0]);
-            case "pays" -> x.pays(a[0]);
-            case "fewestHosts" -> x.fewestHosts();
-            case "cheapestEviction" -> x.cheapestEviction(a[0], a[1]);
-            case "migrationCost" -> x.migrationCost(a[0]);
-            case "drainTo" -> x.drainTo(a[0], a[1]);
-            case "priceAfter" -> x.priceAfter(a[0], a[1]);
-            case "evictedAfter" -> x.evictedAfter(a[0]);
-            case "pass" -> x.pass(a[0]);
-            case "launch" -> x.launch(a[0], a[1]);
-            case "bid" -> x.bid(a[0], a[1], a[2]);
-            case "withdraw" -> x.withdraw(a[0]);
-            case "stop" -> x.stop(a[0]);
-            case "evict" -> x.evict(a[0]);
-            case "migrate" -> x.migrate(a[0], a[1]);
-            case "drain" -> x.drain(a[0]);
-            case "undo" -> x.undo();
-            case "saveSnapshot" -> x.saveSnapshot(a[0]);
-            default -> x.restoreSnapshot(a[0]);
-        };
     }
 }
