@@ -189,6 +189,12 @@ public final class PackingTest {
         KIT.due("bid", x.bidOf(10), 9999);
         KIT.due("six of twelve", x.cheapestEviction(0, 1), 0b101111100000);
         KIT.due("all twelve", x.cheapestEviction(0, 2), 4095);
+        CloudMarket y = KIT.market("host 12 12;type 1 1 1;type 12 12 1;tenant 99;");
+        for (int k = 0; k < 12; k++) {
+            KIT.due("the highest bid", y.bid(0, 0, 9999), k % 10 + 1);
+            KIT.due("pass", k == 9 || k == 11 ? y.pass(1) : 0, 0);
+        }
+        KIT.due("the dearest set of all", y.cheapestEviction(0, 1), 4095);
     }
 
     private static void migrationCost() {
