@@ -13,6 +13,7 @@ public final class AheadTest {
     }
 
     private static void priceAfter() {
+        KIT.says(30, "Returns the spot price of a type after some hours, if only time passes.");
         CloudMarket x = KIT.market("host 4 9;type 1 1 100;tenant 99;notice 2;");
         KIT.due("bid", x.bid(0, 0, 44), 1);
         KIT.due("now", x.priceAfter(0, 0), 20);
@@ -34,6 +35,7 @@ public final class AheadTest {
     }
 
     private static void evictedAfter() {
+        KIT.says(31, "Returns after how many hours an instance will be evicted, if only time passes.");
         CloudMarket x = KIT.market("host 4 9;type 1 1 100;tenant 99;notice 2;");
         KIT.due("bid", x.bid(0, 0, 44), 1);
         KIT.due("launch", x.launch(0, 0), 0);
@@ -86,6 +88,7 @@ public final class AheadTest {
     }
 
     private static void twoHundredHours() {
+        KIT.says(31, "Returns 1 to 200; NONE if it will not be evicted in 200 hours.");
         // Four requests after one another take host 1 for 40 hours each, then one for so much
         // that the price rises above the bid of instance 0, which has its notice for 39 hours later.
         CloudMarket x = KIT.market("host 10 1;host 10 10;type 1 1 1000;type 2 10 1000;type 8 10 1000;tenant 9999;"
@@ -104,6 +107,7 @@ public final class AheadTest {
         KIT.due("price of the last", x.priceAfter(0, 161), 550);
         KIT.due("price of the last", x.priceAfter(0, 199), 550);
         KIT.due("price of none", x.priceAfter(0, 200), 100);
+        KIT.argument("no further", () -> x.priceAfter(0, 201));
         KIT.due("it comes so", x.pass(199), 4);
         KIT.due("running", x.running(), 3);
         KIT.due("it comes so", x.pass(1), 2);
@@ -111,6 +115,7 @@ public final class AheadTest {
     }
 
     private static void limits() {
+        KIT.says(30, "- `hours`: 0 to 200");
         CloudMarket x = KIT.market("host 4 9;type 1 1 100;tenant 99;");
         KIT.due("launch", x.launch(0, 0), 0);
         KIT.due("most hours", x.priceAfter(0, 200), 45);

@@ -3,9 +3,15 @@ final class Kit {
     private int checks = 0;
     private int wrong = 0;
     private final String name;
+    private String sentence = "";
 
     Kit(String name) {
         this.name = name;
+    }
+
+    /** Names the sentence of the document that the next checks look at; promise 0 is the description. */
+    void says(int promise, String words) {
+        sentence = " [promise " + promise + ": " + words + "]";
     }
 
     interface Call {
@@ -16,7 +22,7 @@ final class Kit {
         checks++;
         if (got != want) {
             wrong++;
-            System.out.println(name + ": " + what + " answered " + got + ", due is " + want);
+            System.out.println(name + ": " + what + " answered " + got + ", due is " + want + sentence);
         }
     }
 
@@ -28,7 +34,7 @@ final class Kit {
         checks++;
         if (Double.compare(got, want) != 0) {
             wrong++;
-            System.out.println(name + ": " + what + " answered " + got + ", due is " + want);
+            System.out.println(name + ": " + what + " answered " + got + ", due is " + want + sentence);
         }
     }
 
@@ -56,7 +62,7 @@ final class Kit {
             got = "threw " + e;
         }
         wrong++;
-        System.out.println(name + ": " + what + " " + got + ", due is " + want.getName());
+        System.out.println(name + ": " + what + " " + got + ", due is " + want.getName() + sentence);
     }
 
     /** Appends a text, filled up with spaces to whole calls, and parses just the text. */
