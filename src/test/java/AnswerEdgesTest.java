@@ -1,3 +1,5 @@
+import java.util.Random;
+
 /** The boundary cases of promises 5 to 29, sentence by sentence; wrong numbers are in RefusedTest. */
 public final class AnswerEdgesTest {
     private static final Kit KIT = new Kit("AnswerEdgesTest");
@@ -19,12 +21,16 @@ public final class AnswerEdgesTest {
         pays();
         fewestHosts();
         fewestHostsIsExact();
+        fewestHostsOfAllTypes();
+        fewestHostsOfAllNumbers();
+        fewestHostsOfManyClouds();
         cheapestEviction();
         cheapestEvictionOrder();
         cheapestEvictionChoice();
         migrationCost();
         drainTo();
         drainToFirst();
+        drainToTriesAgain();
         KIT.end();
     }
 
@@ -90,6 +96,10 @@ public final class AnswerEdgesTest {
         KIT.dueDouble("a third", x.utilisation(), 1.0 / 3.0);
         KIT.due("launch", x.launch(0, 0), 1);
         KIT.dueDouble("two thirds", x.utilisation(), 2.0 / 3.0);
+        CloudMarket z = KIT.market("host 1 9;type 1 1 1;tenant 9;");
+        KIT.dueDouble("0 of 1", z.utilisation(), 0.0);
+        KIT.due("launch", z.launch(0, 0), 0);
+        KIT.dueDouble("1 of 1", z.utilisation(), 1.0);
         CloudMarket y = KIT.market("host 64 256;".repeat(8) + "type 64 1 1;type 1 1 1;tenant 9;");
         KIT.due("launch", y.launch(0, 1), 0);
         KIT.dueDouble("1 of 512", y.utilisation(), 1.0 / 512.0);
@@ -262,6 +272,8 @@ public final class AnswerEdgesTest {
             KIT.due("with " + n, x.covered(0, 0), Math.min(n, 2));
             KIT.due("launch", x.launch(0, 0), n);
         }
+        KIT.due("launch", x.launch(0, 1), 6);
+        KIT.due("launch", x.launch(1, 0), 7);
         KIT.due("another type", x.covered(0, 1), 0);
         KIT.due("another tenant", x.covered(1, 0), 0);
         KIT.due("pass", x.pass(1), 0);
@@ -365,6 +377,134 @@ public final class AnswerEdgesTest {
         KIT.due("one", w.fewestHosts(), 1);
         launches(w, 0, 2, 1);
         KIT.due("two", w.fewestHosts(), 2);
+    }
+
+    private static void fewestHostsOfAllTypes() {
+        // Two of each of six types, 42 of cpu and of memory in all. They are launched in pairs of 7 and 7; the first pair
+        // goes to the two small hosts, though the others could hold all, just so.
+        String types = "type 1 6 1;type 2 5 1;type 3 4 1;type 4 3 1;type 5 2 1;type 6 1 1;tenant 9;";
+        int[] order = {0, 5, 0, 5, 1, 4, 1, 4, 2, 3, 2, 3};
+        String[] hosts = {"host 42 42;", "host 41 42;host 1 6;", "host 42 41;host 6 1;", "host 21 21;host 21 21;",
+            "host 14 14;host 14 14;host 14 14;"};
+        int[] fewest = {1, 2, 2, 2, 3};
+        for (int k = 0; k < hosts.length; k++) {
+            CloudMarket x = KIT.market("host 1 6;host 6 1;" + hosts[k] + types);
+            for (int n = 0; n < 12; n++) {
+                KIT.due("launch", x.launch(0, order[n]), n);
+            }
+            KIT.due("a small host", x.hostOf(0), 0);
+            KIT.due("a small host", x.hostOf(1), 1);
+            KIT.due("fewest on " + hosts[k], x.fewestHosts(), fewest[k]);
+        }
+        // The first host alone takes all; the instances are on the others as well.
+        CloudMarket z = KIT.market("host 42 42;host 1 6;host 2 5;host 3 4;host 4 3;host 5 2;host 6 1;" + types);
+        for (int n = 0; n < 12; n++) {
+            KIT.due("launch", z.launch(0, n % 6), n);
+        }
+        KIT.due("they are on all", z.hostOf(0) == 1 && z.hostOf(5) == 6 && z.hostOf(6) == 0, true);
+        KIT.due("the first is enough", z.fewestHosts(), 1);
+    }
+
+    /** All numbers of instances of four types, up to seven in all, against a trial of all places. */
+    private static void fewestHostsOfAllNumbers() {
+        int[][] hosts = {{10, 9}, {7, 12}, {12, 6}};
+        int[][] types = {{5, 2}, {3, 4}, {2, 1}, {4, 3}};
+        for (int code = 0; code < 8 * 8 * 8 * 8; code++) {
+            int[] many = {code & 7, code >> 3 & 7, code >> 6 & 7, code >> 9};
+            if (many[0] + many[1] + many[2] + many[3] <= 7) {
+                CloudMarket x = new CloudMarket();
+                Kit.parse(x, "host 10 9;host 7 12;host 12 6;type 5 2 1;type 3 4 1;type 2 1 1;type 4 3 1;tenant 99;");
+                int[] running = new int[7];
+                int count = 0;
+                for (int n = 0; n < 28; n++) {
+                    if (n / 4 < many[n % 4] && x.bestHost(n % 4) >= 0) {
+                        x.launch(0, n % 4);
+                        running[count++] = n % 4;
+                    }
+                }
+                int[][] left = {hosts[0].clone(), hosts[1].clone(), hosts[2].clone()};
+                KIT.due("fewest of numbers " + code, x.fewestHosts(), tried(types, running, count, left, 0));
+            }
+        }
+    }
+
+    /** The fewest hosts in use when the first so many instances are put in all ways on what is left of the hosts. */
+    private static int tried(int[][] types, int[] running, int count, int[][] left, int used) {
+        if (count == 0) {
+            return Integer.bitCount(used);
+        }
+        int[] need = types[running[count - 1]];
+        int best = 99;
+        for (int host = 0; host < left.length; host++) {
+            if (need[0] <= left[host][0] && need[1] <= left[host][1]) {
+                left[host][0] -= need[0];
+                left[host][1] -= need[1];
+                best = Math.min(best, tried(types, running, count - 1, left, used | 1 << host));
+                left[host][0] += need[0];
+                left[host][1] += need[1];
+            }
+        }
+        return best;
+    }
+
+    /** Clouds whose instances leave little room, against the fewest hosts for every set of instances. */
+    private static void fewestHostsOfManyClouds() {
+        Random random = new Random(26);
+        for (int cloud = 0; cloud < 1500; cloud++) {
+            int[][] hosts = sizes(random, 3 + random.nextInt(6), 12);
+            int[][] types = sizes(random, 1 + random.nextInt(6), 6);
+            StringBuilder text = new StringBuilder("tenant 99;");
+            for (int[] host : hosts) {
+                text.append("host ").append(host[0]).append(' ').append(host[1]).append(';');
+            }
+            for (int[] type : types) {
+                text.append("type ").append(type[0]).append(' ').append(type[1]).append(" 1;");
+            }
+            CloudMarket x = new CloudMarket();
+            KIT.due("parse", Kit.parse(x, text.toString()), 0);
+            int[][] running = new int[9][];
+            int count = 0;
+            for (int n = 0; n < 40 && count < running.length; n++) {
+                int type = random.nextInt(types.length);
+                if (x.bestHost(type) >= 0) {
+                    x.launch(0, type);
+                    running[count++] = types[type];
+                }
+            }
+            KIT.due("fewest of " + text, x.fewestHosts(), fewestOfSets(hosts, running, count));
+        }
+    }
+
+    private static int[][] sizes(Random random, int many, int most) {
+        int[][] sizes = new int[many][];
+        for (int k = 0; k < many; k++) {
+            sizes[k] = new int[] {1 + random.nextInt(most), 1 + random.nextInt(most)};
+        }
+        return sizes;
+    }
+
+    private static int fewestOfSets(int[][] hosts, int[][] running, int count) {
+        int sets = 1 << count;
+        int[] cpu = new int[sets];
+        int[] memory = new int[sets];
+        int[] fewest = new int[sets];
+        for (int set = 1; set < sets; set++) {
+            int last = Integer.numberOfTrailingZeros(set);
+            cpu[set] = cpu[set & set - 1] + running[last][0];
+            memory[set] = memory[set & set - 1] + running[last][1];
+            fewest[set] = 99;
+        }
+        for (int[] host : hosts) {
+            // From the largest set down, so that a host is used once.
+            for (int set = sets - 1; set > 0; set--) {
+                for (int part = set; part > 0; part = part - 1 & set) {
+                    if (cpu[part] <= host[0] && memory[part] <= host[1]) {
+                        fewest[set] = Math.min(fewest[set], fewest[set ^ part] + 1);
+                    }
+                }
+            }
+        }
+        return fewest[sets - 1];
     }
 
     /** Runs spot instances with these types and bids, numbered in this order, on the first host. */
@@ -518,5 +658,24 @@ public final class AnswerEdgesTest {
         KIT.due("stop", y.stop(1), 0);
         KIT.due("the first", y.drainTo(0, 0), 1);
         KIT.due("the third beside it", y.drainTo(0, 2), 1);
+    }
+
+    /** The same by memory: a place that was tried and left is free again, of cpu and of memory. */
+    private static void drainToTriesAgain() {
+        String[] texts = {"host 9 5;host 9 3;host 9 2;type 1 2 1;type 1 3 1;tenant 9;",
+            "host 5 9;host 3 9;host 2 9;type 2 1 1;type 3 1 1;tenant 9;"};
+        for (String text : texts) {
+            CloudMarket x = KIT.market(text);
+            for (int k = 0; k < 2; k++) {
+                KIT.due("launch", x.launch(0, k), k);
+                KIT.due("on host 0", x.hostOf(k) == 0 || x.migrate(k, 0) > 0, true);
+            }
+            KIT.due("together", x.instancesOn(0), 3);
+            KIT.due("not to host 1, which the other needs", x.drainTo(0, 0), 2);
+            KIT.due("to host 1, the whole of it", x.drainTo(0, 1), 1);
+            KIT.due("drain", x.drain(0), 2);
+            KIT.due("there", x.instancesOn(1), 2);
+            KIT.due("there", x.instancesOn(2), 1);
+        }
     }
 }

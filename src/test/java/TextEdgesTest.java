@@ -7,6 +7,7 @@ public final class TextEdgesTest {
         atMost800Bytes();
         everyByteAsASeparator();
         longestTokens();
+        wordsLetterByLetter();
         invalidTokens();
         emptyCloud();
         everyBeginning();
@@ -73,6 +74,9 @@ public final class TextEdgesTest {
             answer("host 1 2;" + c, blank ? 0 : 1, 9);
             answer("host 1 2" + c + ";", blank || digit ? 0 : 1, c == ';' ? 9 : 8);
             answer("ho" + c + "st 1 2;", 1, 0);
+            boolean letter = b >= 'a' && b <= 'z';
+            // With a 7, 8 or 9 before it, the cpu is 71 to 91.
+            answer("host" + c + "1 2;", blank || digit && b < '7' ? 0 : digit ? 3 : 1, letter ? 0 : 4);
         }
         KIT.due("only blanks", KIT.market(" \n\n  \n").hostCount(), 0);
         KIT.due("many blanks", KIT.market("\n\n host \n 1 \n\n 2 \n ; \n").free(0, true), 2);
@@ -98,6 +102,26 @@ public final class TextEdgesTest {
         KIT.due("numbers of 4 digits", KIT.market("host 0064 0256;").free(0, true), 256);
         KIT.due("leading zeros", KIT.market("host 008 010;").free(0, true), 10);
         KIT.due("all characters", KIT.market("move(1+2)-3*4/5;").hostCount(), 0);
+    }
+
+    /** A word with any letter changed, left out or doubled is another word. */
+    private static void wordsLetterByLetter() {
+        String[] texts = {"host 1 1;", "type 1 1 1;", "tenant 1;", "reserve 0 0 1 0 1 0;", "floor 1;", "notice 1;",
+            "slope 1;", "move 1;", "cpu;", "memory;", "price;", "age;"};
+        for (String text : texts) {
+            String word = text.split("[ ;]")[0];
+            String tail = text.substring(word.length());
+            String head = word.equals("reserve") ? OWNER : tail.equals(";") ? "move " : "";
+            KIT.due(word, KIT.market(head + text).hostCount(), word.equals("host") ? 1 : 0);
+            for (int k = 0; k < word.length(); k++) {
+                String before = word.substring(0, k);
+                String behind = word.substring(k + 1);
+                KIT.error(head + before + (char) (word.charAt(k) + 1) + behind + tail, 1, head.length());
+                KIT.error(head + before + (char) (word.charAt(k) - 1) + behind + tail, 1, head.length());
+                KIT.error(head + before + behind + tail, 1, head.length());
+                KIT.error(head + before + word.charAt(k) + word.charAt(k) + behind + tail, 1, head.length());
+            }
+        }
     }
 
     private static void invalidTokens() {
@@ -714,6 +738,31 @@ public final class TextEdgesTest {
         CloudMarket y = started();
         KIT.due("the empty text", y.parse(0), 0);
         Look.same(KIT, "as new", Look.of(y), Look.of(new CloudMarket()));
+        fromLargeToSmall();
+    }
+
+    /** Nothing of a cloud with the most of everything is left in one with little. */
+    private static void fromLargeToSmall() {
+        String small = "host 2 2;host 1 1;type 1 1 100;type 1 1 50;tenant 9;";
+        CloudMarket x = KIT.market("host 64 256;".repeat(8) + "type 1 1 9999;".repeat(6) + "tenant 9999;".repeat(6)
+            + "reserve 0 0 9 0 9999 0;".repeat(8) + "floor 100;notice 48;slope 400;move price*9;");
+        for (int k = 0; k < 5; k++) {
+            KIT.due("launch", x.launch(0, k), k);
+        }
+        KIT.due("pass", x.pass(1), 0);
+        KIT.due("goes", x.drainTo(0, 0), 1);
+        KIT.due("parse", Kit.parse(x, small), 0);
+        CloudMarket y = KIT.market(small);
+        for (int k = 0; k < 3; k++) {
+            KIT.due("launch", x.launch(0, k % 2), k);
+            KIT.due("launch", y.launch(0, k % 2), k);
+        }
+        Look.same(KIT, "as if it were the first", Look.of(x), Look.of(y));
+        KIT.due("no third host to go to", x.drainTo(1, x.hostOf(0) == 1 ? 0 : 1), -1);
+        KIT.due("room", x.room(0), 0);
+        KIT.due("pass", x.pass(1), 0);
+        KIT.due("pass", y.pass(1), 0);
+        Look.same(KIT, "as if it were the first", Look.of(x), Look.of(y));
     }
 
     private static void errorPosition() {

@@ -12,36 +12,6 @@ public final class UndoTest {
         KIT.end();
     }
 
-    /** Everything that can be asked about the situation, as one text. */
-    private static String look(CloudMarket x) {
-        StringBuilder all = new StringBuilder();
-        all.append(x.clock()).append(' ').append(x.running()).append(' ').append(x.waiting());
-        for (int k = 0; k < 10; k++) {
-            all.append(' ').append(x.waitingBid(k));
-        }
-        for (int k = 0; k < 2; k++) {
-            all.append(" / ").append(x.spotPrice(k)).append(' ').append(x.spent(k)).append(' ')
-                .append(x.hourlyBill(k)).append(' ').append(x.free(k, true)).append(' ').append(x.free(k, false))
-                .append(' ').append(x.instancesOn(k)).append(' ').append(x.room(k)).append(' ')
-                .append(x.priceAfter(k, 9));
-        }
-        for (int k = 0; k < 12; k++) {
-            if ((x.running() >> k & 1) != 0) {
-                all.append(" / ").append(x.typeOf(k)).append(' ').append(x.tenantOf(k)).append(' ')
-                    .append(x.hostOf(k)).append(' ').append(x.bidOf(k)).append(' ').append(x.noticeOf(k))
-                    .append(' ').append(x.migrationCost(k)).append(' ').append(x.evictedAfter(k));
-            }
-        }
-        return all.toString();
-    }
-
-    private static void same(String what, String got, String want) {
-        if (!got.equals(want)) {
-            System.out.println(what + ": " + got + " is not " + want);
-        }
-        KIT.due(what, got.equals(want), true);
-    }
-
     private static void eachChange() {
         CloudMarket x = KIT.market(TEXT);
         Kit.Call[] calls = {
@@ -50,12 +20,12 @@ public final class UndoTest {
             () -> x.pass(5)};
         String[] looks = new String[calls.length];
         for (int k = 0; k < calls.length; k++) {
-            looks[k] = look(x);
+            looks[k] = Look.brief(x);
             calls[k].answer();
         }
         for (int k = calls.length - 1; k >= 0; k--) {
             KIT.due("undo " + k, x.undo(), k);
-            same("undone " + k, look(x), looks[k]);
+            Look.same(KIT, "undone " + k, Look.brief(x), looks[k]);
         }
         KIT.due("none", x.undo(), -1);
         KIT.due("none", x.undo(), -1);
@@ -112,32 +82,32 @@ public final class UndoTest {
         KIT.due("bid", x.bid(1, 1, 20), 2);
         KIT.due("pass", x.pass(1), 0);
         KIT.due("evict", x.evict(1), 3);
-        String first = look(x);
+        String first = Look.of(x);
         KIT.due("save", x.saveSnapshot(1), false);
         KIT.due("saving keeps the history", x.undo(), 4);
         KIT.due("pass", x.pass(7), 0);
         KIT.due("stop", x.stop(0), 0);
-        String second = look(x);
+        String second = Look.of(x);
         KIT.due("save", x.saveSnapshot(0), false);
         KIT.due("withdraw", x.withdraw(1), 1);
         KIT.due("restore", x.restoreSnapshot(1), 1);
-        same("the first", look(x), first);
+        Look.same(KIT, "the first", Look.of(x), first);
         KIT.due("the history is cleared", x.undo(), -1);
         KIT.due("launch", x.launch(1, 1), 2);
         KIT.due("pass", x.pass(2), 0);
         KIT.due("restore", x.restoreSnapshot(0), 8);
-        same("the second", look(x), second);
+        Look.same(KIT, "the second", Look.of(x), second);
         // The request for 20 is granted in the first hour and evicted in the fourth.
         KIT.due("pass", x.pass(20), 1);
         KIT.due("it stays stored", x.restoreSnapshot(1), 1);
-        same("the first again", look(x), first);
+        Look.same(KIT, "the first again", Look.of(x), first);
         KIT.due("save again", x.saveSnapshot(0), true);
         KIT.due("pass", x.pass(3), 0);
         KIT.due("in place of the earlier one", x.restoreSnapshot(0), 1);
-        same("now the first", look(x), first);
+        Look.same(KIT, "now the first", Look.of(x), first);
         KIT.due("pass", x.pass(1), 0);
         KIT.due("undo after a restore", x.undo(), 0);
-        same("now the first", look(x), first);
+        Look.same(KIT, "now the first", Look.of(x), first);
         KIT.due("undo does not touch slots", x.restoreSnapshot(1), 1);
     }
 
