@@ -412,14 +412,17 @@ public final class CloudMarket {
      * a cell outside the table reads as 0 and is never written.
      */
     private static final class Table {
+        // With sides up to this the number of cells cannot overflow.
+        private static final int MAX_SIDE = 1000;
+
         private final int rows;
         private final int columns;
         private final int[] cells;
         private int size = 0;
 
         Table(int rows, int columns) {
-            this.rows = Math.max(0, rows);
-            this.columns = Math.max(0, columns);
+            this.rows = Math.max(0, Math.min(rows, MAX_SIDE));
+            this.columns = Math.max(0, Math.min(columns, MAX_SIDE));
             this.cells = new int[this.rows * this.columns];
         }
 
@@ -650,6 +653,8 @@ public final class CloudMarket {
 
         private final byte[] text = new byte[MAX_TEXT];
         private int filled = 0;
+        // The sort of each byte: worked out before the reading, which then needs fewer calls inside calls.
+        private final byte[] sorts = new byte[MAX_TEXT];
         private final Cloud draft = new Cloud();
         private int errorAt = NONE;
         private int code = 0;
@@ -678,42 +683,47 @@ public final class CloudMarket {
             filled = 0;
             next = 0;
             seen = 0;
+            for (int k = 0; k < length && k < text.length && k < sorts.length; k++) {
+                sorts[k] = (byte) sortOf(text[k]);
+            }
             advance();
             boolean good = true;
             for (int n = 0; n <= MAX_TEXT && good && kind != END; n++) {
-                good = statement();
+                good = statement() && takes(';');
             }
             return code;
         }
 
+        /** Takes a statement without its semicolon. */
+
         private boolean statement() {
             if (isWord("host")) {
                 return opens(draft.hosts) && puts(draft.hosts, CPU, 1, 64)
-                    && puts(draft.hosts, MEMORY, 1, 256) && closes(draft.hosts);
+                    && puts(draft.hosts, MEMORY, 1, 256) && keeps(draft.hosts);
             }
             if (isWord("type")) {
                 return opens(draft.types) && puts(draft.types, CPU, 1, 64)
                     && puts(draft.types, MEMORY, 1, 256) && puts(draft.types, PRICE, 1, MAX_PRICE)
-                    && closes(draft.types);
+                    && keeps(draft.types);
             }
             if (isWord("tenant")) {
-                return opens(draft.tenants) && puts(draft.tenants, BUDGET, 0, 9999) && closes(draft.tenants);
+                return opens(draft.tenants) && puts(draft.tenants, BUDGET, 0, 9999) && keeps(draft.tenants);
             }
             if (isWord("reserve")) {
                 return reservation(draft.reservations);
             }
             if (isWord("floor")) {
-                return isFirst(1) && puts(draft.settings, FLOOR, 1, 100) && ends();
+                return isFirst(1) && puts(draft.settings, FLOOR, 1, 100);
             }
             if (isWord("notice")) {
-                return isFirst(2) && puts(draft.settings, NOTICE_HOURS, 0, 48) && ends();
+                return isFirst(2) && puts(draft.settings, NOTICE_HOURS, 0, 48);
             }
             if (isWord("slope")) {
-                return isFirst(4) && puts(draft.settings, SLOPE, 0, 400) && ends();
+                return isFirst(4) && puts(draft.settings, SLOPE, 0, 400);
             }
             if (isWord("move")) {
                 draft.move.clear();
-                return isFirst(8) && sum(0) && ends();
+                return isFirst(8) && sum(0);
             }
             return fail(MALFORMED);
         }
@@ -723,7 +733,7 @@ public final class CloudMarket {
                 && puts(table, TYPE, 0, draft.types.size - 1) && puts(table, MANY, 1, 9)
                 && puts(table, FROM, 0, MAX_CLOCK - 1)
                 && puts(table, UNTIL, table.get(table.size, FROM) + 1, MAX_CLOCK)
-                && puts(table, PERCENT, 0, 100) && closes(table);
+                && puts(table, PERCENT, 0, 100) && keeps(table);
         }
 
         /** Takes the word of a statement that adds a row. */
@@ -759,13 +769,10 @@ public final class CloudMarket {
             return true;
         }
 
-        private boolean closes(Table table) {
+        /** Brings the row into use that the numbers of a statement have filled. */
+        private boolean keeps(Table table) {
             table.insertRow(table.size);
-            return ends();
-        }
-
-        private boolean ends() {
-            return takes(';');
+            return true;
         }
 
         private boolean takes(int sign) {
@@ -844,13 +851,13 @@ public final class CloudMarket {
 
         private void advance() {
             start = runEnd(next, BLANK);
-            if (start >= length || start >= text.length) {
+            if (start >= length || start >= text.length || start >= sorts.length) {
                 kind = END;
                 start = length;
                 next = length;
                 return;
             }
-            int sort = sortOf(text[start]);
+            int sort = sorts[start];
             next = sort == WORD || sort == NUMBER ? runEnd(start, sort) : start + 1;
             int most = sort == WORD ? MAX_LETTERS : MAX_DIGITS;
             if (sort == SIGN) {
@@ -861,8 +868,8 @@ public final class CloudMarket {
         }
 
         private int runEnd(int from, int sort) {
-            int end = Math.max(0, from);
-            while (end < length && end < text.length && sortOf(text[end]) == sort) {
+            int end = from < 0 ? 0 : from;
+            while (end < length && end < sorts.length && sorts[end] == sort) {
                 end++;
             }
             return end;
@@ -1412,48 +1419,59 @@ public final class CloudMarket {
     private static final class Eviction {
         private static final int MORE_THAN_ALL = MAX_INSTANCES * MAX_PRICE + 1;
 
-        private final int[] spots = new int[MAX_INSTANCES];
-        private int many = 0;
+        // The column behind cpu, memory and bid.
+        private static final int NUMBER = 3;
+
+        // The spot instances of the host: what they take, their bids and their numbers.
+        private final Table spots = new Table(MAX_INSTANCES, 4);
         private int best = NONE;
         private int bestBids = 0;
 
         int cheapest(Cloud cloud, Situation now, int host, int type) {
-            many = 0;
+            spots.clear();
             best = NONE;
             bestBids = MORE_THAN_ALL;
             for (int k = 0; k < MAX_INSTANCES; k++) {
                 boolean here = now.runs(k) && now.instances.get(k, HOST) == host;
-                if (here && now.instances.get(k, BID) != NONE && many >= 0 && many < spots.length) {
-                    spots[many] = k;
-                    many++;
+                if (here && now.instances.get(k, BID) != NONE) {
+                    addSpot(cloud, now, k);
                 }
             }
             int cpu = cloud.types.get(type, CPU) - now.left(cloud, host, CPU);
             int memory = cloud.types.get(type, MEMORY) - now.left(cloud, host, MEMORY);
-            choose(cloud, now, 0, 0, cpu, memory, 0);
+            choose(this, 0, 0, cpu, memory, 0);
             return best;
         }
 
+        private void addSpot(Cloud cloud, Situation now, int instance) {
+            int type = now.instances.get(instance, TYPE);
+            int row = spots.size;
+            spots.insertRow(row);
+            spots.set(row, CPU, cloud.types.get(type, CPU));
+            spots.set(row, MEMORY, cloud.types.get(type, MEMORY));
+            spots.set(row, BID, now.instances.get(instance, BID));
+            spots.set(row, NUMBER, instance);
+        }
+
         /**
-         * Decides on the spot instances from position k on, while so much cpu and memory is missing.
+         * Decides on the spot instances from row k on, while so much cpu and memory is missing.
          * Bids are positive, so that nothing is gained by evicting more once enough is free.
          */
-        private void choose(Cloud cloud, Situation now, int k, int set, int cpu, int memory, int bids) {
-            if (bids > bestBids) {
+        private static void choose(Eviction search, int k, int set, int cpu, int memory, int bids) {
+            if (bids > search.bestBids) {
                 return;
             }
             if (cpu <= 0 && memory <= 0) {
-                keep(set, bids);
+                search.keep(set, bids);
                 return;
             }
-            if (k < 0 || k >= many || k >= spots.length) {
+            Table spots = search.spots;
+            if (!spots.has(k)) {
                 return;
             }
-            int instance = spots[k];
-            int type = now.instances.get(instance, TYPE);
-            choose(cloud, now, k + 1, set | 1 << instance, cpu - cloud.types.get(type, CPU),
-                memory - cloud.types.get(type, MEMORY), bids + now.instances.get(instance, BID));
-            choose(cloud, now, k + 1, set, cpu, memory, bids);
+            choose(search, k + 1, set | 1 << spots.get(k, NUMBER), cpu - spots.get(k, CPU),
+                memory - spots.get(k, MEMORY), bids + spots.get(k, BID));
+            choose(search, k + 1, set, cpu, memory, bids);
         }
 
         private void keep(int set, int bids) {
@@ -1488,7 +1506,7 @@ public final class CloudMarket {
                 rooms.set(k, CPU, k == host ? 0 : now.left(cloud, k, CPU));
                 rooms.set(k, MEMORY, k == host ? 0 : now.left(cloud, k, MEMORY));
             }
-            return place(cloud, now, 0);
+            return place(this, cloud, now, 0);
         }
 
         int targetOf(int instance) {
@@ -1507,19 +1525,20 @@ public final class CloudMarket {
         }
 
         /** Finds targets for the instances from position k on. */
-        private boolean place(Cloud cloud, Situation now, int k) {
-            if (k < 0 || k >= many || k >= movers.length || k >= targets.length) {
+        private static boolean place(Drainage search, Cloud cloud, Situation now, int k) {
+            if (k < 0 || k >= search.many || k >= search.movers.length || k >= search.targets.length) {
                 return true;
             }
-            int type = now.instances.get(movers[k], TYPE);
+            int type = now.instances.get(search.movers[k], TYPE);
+            Table rooms = search.rooms;
             int cpu = cloud.types.get(type, CPU);
             int memory = cloud.types.get(type, MEMORY);
             for (int host = 0; host < cloud.hosts.size; host++) {
                 if (cpu <= rooms.get(host, CPU) && memory <= rooms.get(host, MEMORY)) {
                     rooms.add(host, CPU, -cpu);
                     rooms.add(host, MEMORY, -memory);
-                    targets[k] = host;
-                    if (place(cloud, now, k + 1)) {
+                    search.targets[k] = host;
+                    if (place(search, cloud, now, k + 1)) {
                         return true;
                     }
                     rooms.add(host, CPU, cpu);
