@@ -678,6 +678,7 @@ public final class TextEdgesTest {
         Kit.fill(x, "host 1 1;host 2 2;??");
         KIT.due("the first 18", x.parse(18), 0);
         KIT.due("hosts", x.hostCount(), 2);
+        nothingBehindTheLength();
         KIT.says(3, "- `length`: 0 to the length of the buffer");
         CloudMarket y = KIT.market("host 1 1;");
         KIT.due("0 of an empty buffer", y.parse(0), 0);
@@ -686,6 +687,23 @@ public final class TextEdgesTest {
         KIT.due("0 of a buffer of 20", y.parse(0), 0);
         KIT.due("it is emptied", y.append(0, 0, 0, 0, 0), 20);
         KIT.due("the whole buffer", y.parse(20), 1);
+    }
+
+    /** Neither the rest of the buffer nor an earlier text goes on with the last token, which would be too long then. */
+    private static void nothingBehindTheLength() {
+        for (String cut : new String[] {"host 4", "move age", "tenant", "host 1234", "move 1+(22"}) {
+            char last = cut.charAt(cut.length() - 1);
+            String more = String.valueOf(last).repeat(20);
+            CloudMarket x = new CloudMarket();
+            Kit.fill(x, cut + more);
+            x.parse(cut.length());
+            int position = cut.equals("host 1234") ? 5 : cut.length();
+            KIT.due("end of [" + cut + "] before more of the buffer", x.errorPosition(), position);
+            Kit.parse(x, more);
+            KIT.due("position in a text of one run", x.errorPosition(), 0);
+            Kit.parse(x, cut);
+            KIT.due("end of [" + cut + "] after a longer text", x.errorPosition(), position);
+        }
     }
 
     private static void parseFailure() {
